@@ -113,6 +113,13 @@ public final class PromisesTest {
             due("3: to the last row", x.remove(0, 0), n);
         }
         due("3: of an empty table", x.remove(0, 0), -2);
+        for (int n = 0; n < 6; n++) {
+            x.add(2, n, n, n);
+        }
+        due("3: the last row of all", x.remove(2, 5), 5);
+        x.add(2, 6, 6, 6);
+        due("3: the first row of the last table", x.remove(2, 0), 5);
+        due("3: what stands last there", x.cell(2, 4, 2), 6);
     }
 
     private static void store() {
@@ -384,9 +391,8 @@ public final class PromisesTest {
 
     private static void endings() {
         RowQueries x = new RowQueries();
-        int[] without = {0, 0, 0, 0, 0, 0};
         for (int kind = COUNT; kind <= KINDS; kind++) {
-            dueEnding(x, "no rows", kind, without[kind - COUNT]);
+            dueEnding(x, "no rows", kind, 0);
         }
         int[][] firstCells = {{-4}, {-4, -9, -4}, {8, 3, 8, 3, 5, 9}, {MAX, 1, MIN}, {MIN, MIN}, {0, 0, 0}};
         int[][] want = {
